@@ -18,8 +18,8 @@ final class Due {
         }
     }
 
-    static void holds(String claim, boolean true_) {
-        if (!true_) {
+    static void holds(String claim, boolean so) {
+        if (!so) {
             wrong++;
             System.out.println("does not hold: " + claim);
         }

@@ -127,6 +127,7 @@ public final class PromiseTest {
             Due.is("4 below", x.change(0, what, -1), Due.BEYOND);
             Due.is("4 stays", x.ofDead(0, what), most[what - 3]);
             Due.is("4 to 0", x.change(0, what, 0), most[what - 3]);
+            Due.is("4 is 0", x.ofDead(0, what), 0);
         }
         for (int what : new int[] {-1, 0, 1, 2, 7, 8, MIN, MAX}) {
             Due.is("4 what " + what, x.change(0, what, 0), Due.BEYOND);
@@ -344,6 +345,8 @@ public final class PromiseTest {
         for (int i = 0; i < texts.length; i++) {
             GhostTable x = new GhostTable();
             Due.is("16 " + texts[i], Due.text(x, 0, texts[i]), faults[i] < 0 ? 1 : -10 - faults[i]);
+            Due.is("16 nothing stays open behind " + texts[i], Due.text(x, 0, "((((!h*2))))"), 1);
+            Due.is("16 nothing is left of " + texts[i], x.law(0, 0, 0, 0, 0), 2);
         }
     }
 
@@ -377,6 +380,11 @@ public final class PromiseTest {
         Due.is("17 least by -1 wraps", x.law(0, MIN, -1, 0, 0), -20);
         Due.text(x, 0, "h%s");
         Due.is("17 least by -1 leaves 0", x.law(0, MIN, -1, 0, 0), 0);
+        Due.text(x, 0, "h*s");
+        Due.is("17 eats at most", x.law(0, 21, 1, 0, 0), 20);
+        Due.is("17 eats at most", x.law(0, 20, 1, 0, 0), 20);
+        Due.is("17 eats at least", x.law(0, 21, -1, 0, 0), -20);
+        Due.is("17 eats at least", x.law(0, 20, -1, 0, 0), -20);
         Due.text(x, 0, "h+s");
         Due.is("17 wraps", x.law(0, MAX, 1, 0, 0), -20);
         Due.text(x, 1, "p*100+h*10+u");
@@ -513,6 +521,8 @@ public final class PromiseTest {
         for (int[] w : wrong) {
             Due.is("20 wrong", x.then(w[0], w[1], w[2]), Due.BEYOND);
         }
+        x.become(0, 52);
+        Due.is("21 a picky one likes its sort", x.thenHeat(1, 0), 20 - 12 - 2);
         Due.is("21 n", x.thenHeat(121, 0), Due.BEYOND);
         Due.is("21 n", x.thenHeat(-1, 0), Due.BEYOND);
         Due.is("21 dish", x.thenHeat(0, 1), Due.BEYOND);
@@ -618,6 +628,15 @@ public final class PromiseTest {
         Due.is("25 two bells", x.needs(0, 0, 2), 7);
         Due.is("25 17 bells", x.needs(0, 0, 17), 97);
         Due.is("25 18 bells", x.needs(0, 0, 18), Due.NONE);
+        x.become(0, 11);
+        x.change(0, 3, 3);
+        Due.is("25 12 bells", x.needs(0, 0, 12), Due.NONE);
+        Due.is("25 11 bells", x.needs(0, 0, 11), 91);
+        Due.text(x, 0, "5*(h=99)-10");
+        Due.is("25 the greatest heat", x.needs(0, 0, 1), 99);
+        Due.text(x, 0, "0");
+        x.become(0, 0);
+        x.change(0, 3, 0);
         x.dish(0, 0, 99);
         x.serve(1, 0);
         Due.is("25 of any dish", x.needs(0, 0, 9), 0);
@@ -910,6 +929,30 @@ public final class PromiseTest {
         Due.is("36 of nothing", y.restore(), 0);
         Due.is("36 no dead", y.count(1), 0);
         Due.is("36 no text", y.law(0, 0, 0, 0, 0), 0);
+        anewBehindAnImage();
+    }
+
+    /** Who and what comes behind restore() has nothing of who stood there ahead of it. */
+    private static void anewBehindAnImage() {
+        GhostTable x = new GhostTable();
+        x.image();
+        x.dead(29, 9, 20);
+        x.dish(20, 9, 20);
+        x.serve(0, 0);
+        x.bells(3);
+        Due.is("36 ate", x.ofDead(0, 7), 20);
+        Due.is("36 anger", x.ofDead(0, 6), 2);
+        Due.is("36 bell", x.restore(), 0);
+        Due.is("36 hunger", x.hunger(0), 0);
+        x.dead(5, 0, 0);
+        x.dish(30, 9, 30);
+        Due.is("2 no anger", x.ofDead(0, 6), 0);
+        Due.is("2 ate nothing", x.ofDead(0, 7), 0);
+        Due.is("8 in the kitchen", x.ofDish(0, 4), -1);
+        Due.is("8 sort", x.ofDish(0, 0), 3);
+        x.image();
+        x.restore();
+        Due.is("36 sort", x.ofDish(0, 0), 3);
     }
 
     private static void promises37and38() {
