@@ -31,7 +31,7 @@ public final class WildTest {
         calls.sort(Comparator.comparing(Method::getName));
         for (int run = 0; run < 300; run++) {
             GhostTable x = new GhostTable();
-            String before = print(x);
+            String before = Seen.byAsking(x);
             for (int i = 0; i < 300; i++) {
                 Method m = calls.get(RANDOM.nextInt(calls.size()));
                 before = hold(x, m, before);
@@ -50,7 +50,7 @@ public final class WildTest {
             Due.holds(call + " threw " + e.getCause(), false);
             return before;
         }
-        String after = print(x);
+        String after = Seen.byAsking(x);
         boolean error = answer < -1000000000 && !NOT_BOUND.contains(m.getName());
         if (error || ASKS.contains(m.getName())) {
             Due.holds(call + " changed nothing\n " + before + "\n " + after, before.equals(after));
@@ -71,28 +71,5 @@ public final class WildTest {
         int luck = RANDOM.nextInt(12);
         return luck == 0 ? RANDOM.nextInt() : luck == 1 ? WILD[RANDOM.nextInt(WILD.length)]
             : luck < 7 ? RANDOM.nextInt(3) : RANDOM.nextInt(60);
-    }
-
-    /** All that can be seen of an object, but for THE TRACE and what told() tells. */
-    private static String print(GhostTable x) {
-        StringBuilder b = new StringBuilder();
-        for (int d = 0; d < x.count(1); d++) {
-            for (int what = 0; what <= 8; what++) {
-                b.append(x.ofDead(d, what)).append(' ');
-            }
-        }
-        for (int d = 0; d < x.count(2); d++) {
-            for (int what = 0; what <= 4; what++) {
-                b.append(x.ofDish(d, what)).append(' ');
-            }
-        }
-        for (int i = 0; i < 4; i++) {
-            b.append(x.hunger(i)).append(' ');
-        }
-        for (int i = 0; i < 10; i++) {
-            b.append(i == 8 ? 0 : x.count(i)).append(' ');
-        }
-        b.append(x.law(0, 17, 3, 2, 1)).append(' ').append(x.law(1, 17, 60, 2, 1));
-        return b.toString();
     }
 }
