@@ -322,7 +322,7 @@ public final class GhostTable {
         if (!isAhead(n)) {
             return error(BEYOND);
         }
-        lookAhead(0);
+        ahead.copyFrom(now.board);
         int angry = ahead.firstAbove(CALM);
         for (int i = 0; i < n && angry < 0; i++) {
             ahead.ring(now.eats);
@@ -635,7 +635,7 @@ public final class GhostTable {
     }
 
     private int firstWrongAnger(int dead) {
-        lookAhead(0);
+        ahead.copyFrom(now.board);
         for (int i = 0; i < now.waiting.size; i++) {
             ahead.ring(now.eats);
             if (ahead.ghosts[dead].anger != now.waiting.at(i)) {
