@@ -18,18 +18,23 @@ import javax.tools.JavaCompiler;
 import javax.tools.StandardJavaFileManager;
 import javax.tools.ToolProvider;
 
-/** Rules 8 and 11 of LANGUAGE.md: as the class is written, calls go at most eight deep, and say() alone calls itself. */
-public final class DepthTest {
+/**
+ * Rules 4, 8 and 11 of LANGUAGE.md: as the class is written, calls go at most eight deep, say() alone calls itself, and of
+ * the library only what is allowed is called.
+ */
+public final class CallsTest {
     private static final int DEEPEST = 8;
+    private static final List<String> LIBRARY = List.of("java.lang.Math.max", "java.lang.Math.min", "java.lang.String.indexOf",
+        "java.lang.System.arraycopy", "java.lang.Object.<init>");
 
     private final Map<Element, Set<Element>> calls = new LinkedHashMap<>();
     private List<Element> longest = new ArrayList<>();
 
-    private DepthTest() {
+    private CallsTest() {
     }
 
     public static void main(String[] args) throws IOException {
-        DepthTest test = new DepthTest();
+        CallsTest test = new CallsTest();
         test.readCalls(Path.of("src/main/java/GhostTable.java"));
         Due.holds("methods were found", test.calls.size() > 100);
         for (Element method : test.calls.keySet()) {
@@ -37,6 +42,7 @@ public final class DepthTest {
         }
         Due.holds("at most eight deep: " + test.longest, test.longest.size() <= DEEPEST);
         Due.holds("some calls go deep: " + test.longest, test.longest.size() > 3);
+        test.holdLibrary();
         Due.end();
     }
 
@@ -67,6 +73,16 @@ public final class DepthTest {
             follow(called, open);
         }
         open.remove(open.size() - 1);
+    }
+
+    private void holdLibrary() {
+        for (Map.Entry<Element, Set<Element>> entry : calls.entrySet()) {
+            for (Element called : entry.getValue()) {
+                String name = called.getEnclosingElement() + "." + called.getSimpleName();
+                boolean own = name.startsWith("GhostTable.");
+                Due.holds(entry.getKey() + " may call " + name, own || LIBRARY.contains(name));
+            }
+        }
     }
 
     /** Keeps what each method of the class calls, of the library too. */
